@@ -12,6 +12,7 @@ public final class TideDesk {
     private static final int FINDINGS_ALLOWED = 3000;
 
     private static final long NO_REAL = 9221120237041090560L;
+    private static final long SIGN_OF_REAL = 1L << 63;
     private static final int NO_FLOAT = 2143289344;
     private static final int WITHOUT_SIGN = 0x7fffffff;
     private static final int ENDLESS = 0x7f800000;
@@ -779,7 +780,7 @@ public final class TideDesk {
         }
         long digits = (long) ((rest - 1.0) * 4503599627370496.0);
         long bits = (exponent << 52) + digits;
-        return v < 0.0 ? bits | Long.MIN_VALUE : bits;
+        return v < 0.0 ? bits | SIGN_OF_REAL : bits;
     }
 
     /** What the desk found against acts. */
