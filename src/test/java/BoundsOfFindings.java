@@ -345,7 +345,7 @@ final class BoundsOfFindings {
         x.shoal(0, 0, 0);
         x.ship(0, 0, 0, 0, 0, 0);
         x.ship(1, 0, 100, 0, 0, 0);
-        for (int round = 0; round < 3; round++) {
+        for (int round = 0; round < 2; round++) {
             for (int act = 0; act < acts.length; act++) {
                 int[] before = all(x);
                 acts[act].on(x);

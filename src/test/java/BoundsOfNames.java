@@ -13,6 +13,11 @@ final class BoundsOfNames {
         nothingIsNamed();
         lastNames();
         lastNumbersOfAll();
+        streamsSideBySide();
+        watersSideBySide();
+        wavesSideBySide();
+        readingsSideBySide();
+        placesSideBySide();
     }
 
     private static void aNewDesk() {
@@ -154,5 +159,123 @@ final class BoundsOfNames {
         Checks.Maker full = () -> Harbour.with(times, act);
         Harbour.refused(full, "one beyond the last", Checks.FULL, beyond);
         Harbour.refused(full, "one beyond the last that is BAD", BAD, bad);
+    }
+
+    /** A step up at DAY 1 of each STATION, and a HIGH there. */
+    private static TideDesk highEverywhere() {
+        TideDesk x = new TideDesk();
+        x.rule(2, 60);
+        for (int station = 0; station < 12; station++) {
+            x.survey(station, 0);
+            x.mean(station, 100 + station);
+            x.survey(station, 1);
+            x.waters(station, Checks.DAY - 3600 + 1799, 3);
+        }
+        return x;
+    }
+
+    private static void streamsSideBySide() {
+        Checks.terms("STREAM of a STATION at t: a FLOAT of its row of 13");
+        TideDesk x = highEverywhere();
+        for (int station = 0; station < 12; station++) {
+            for (int hour = -6; hour <= 6; hour++) {
+                x.tide(station, hour, Checks.bits((float) (station + 0.5 * hour)));
+            }
+        }
+        for (int station = 0; station < 12; station++) {
+            for (int hour = -6; hour <= 6; hour++) {
+                Checks.due("STREAM of " + station + " in hour " + hour, x.stream(station, Checks.DAY + 3600 * hour),
+                    Checks.bits((float) (station + 0.5 * hour)));
+            }
+        }
+        Checks.due("no FINDING", x.count(8), 0);
+    }
+
+    private static void watersSideBySide() {
+        Checks.terms("4 WATERS of a STATION, as found latest");
+        TideDesk x = new TideDesk();
+        for (int station = 0; station < 12; station++) {
+            x.mean(station, station);
+            x.wave(station, 1000 + station, 54613, 0);
+            x.survey(station, 0);
+            Checks.due("forty", x.waters(station, 600 * station, 200), 40);
+        }
+        for (int station = 0; station < 12; station++) {
+            Checks.dueTrue("the first", Math.abs(x.found(station, 0, 0) - 600 * (station + 1)) <= 600);
+            Checks.dueTrue("the last", Math.abs(x.found(station, 39, 0) - 600 * (station + 40)) <= 600);
+            Checks.due("HIGH and LOW", x.found(station, 0, 1) + x.found(station, 39, 1), 1);
+            Checks.due("the first is as it must be", x.found(station, 0, 1), station % 2);
+            Checks.dueTrue("the last RANGE", x.range(station, 38) != Checks.NO_REAL);
+            Checks.due("none behind", x.found(station, 40, 0), NONE);
+        }
+        Checks.due("no FINDING", x.count(8), 0);
+    }
+
+    private static void wavesSideBySide() {
+        Checks.terms("STATIONS 0 .. 11 have a DRAFT");
+        TideDesk x = new TideDesk();
+        for (int station = 0; station < 12; station++) {
+            x.mean(station, station);
+        }
+        for (int wave = 1; wave <= 8; wave++) {
+            for (int station = 11; station >= 0; station--) {
+                Checks.due("wave", x.wave(station, 100 * wave + station, 1000 * wave, 500 * station), wave);
+            }
+        }
+        for (int station = 0; station < 12; station++) {
+            x.survey(station, 0);
+        }
+        for (int station = 0; station < 12; station++) {
+            double h = station / 100.0;
+            for (int wave = 1; wave <= 8; wave++) {
+                h = h + (100 * wave + station) / 1000.0 * Checks.cosOf(500 * station + 1000L * wave * 777 / 1000);
+            }
+            Checks.due("HEIGHT of " + station, x.height(station, 777, 0), Checks.bits(h));
+        }
+    }
+
+    private static void readingsSideBySide() {
+        Checks.terms("READING i, 120 at most, is of the MOMENT first + i * STEP");
+        for (int gauge = 0; gauge < 9; gauge += 8) {
+            TideDesk x = new TideDesk();
+            for (int i = 0; i < 10; i++) {
+                x.gauge(i, 0, 60);
+            }
+            x.clock(Checks.DAY);
+            for (int i = 0; i < 120; i++) {
+                Checks.due("reading", x.reading(gauge, i, i + 1), i + 1);
+                Checks.due("reading", x.reading(gauge + 1, 1000 + i, 2000 + i), i + 1);
+            }
+            for (int i : new int[] {0, 1, 118, 119}) {
+                Checks.due("at", x.at(gauge, i), i);
+                Checks.due("air", x.air(gauge, i), i + 1);
+                Checks.due("at", x.at(gauge + 1, i), 1000 + i);
+                Checks.due("air", x.air(gauge + 1, i), 2000 + i);
+            }
+        }
+    }
+
+    private static void placesSideBySide() {
+        Checks.terms("FLEETS 0 .. 3 are NOTHING (at first) or rows of n (0 .. 8) places");
+        TideDesk x = new TideDesk();
+        for (int ship = 0; ship < 32; ship++) {
+            x.ship(1, 0, 0, ship, 0, 0);
+        }
+        for (int f = 3; f >= 0; f--) {
+            x.fleet(f, 1, 8);
+            for (int i = 0; i < 8; i++) {
+                x.join(f, i, 8 * f + i);
+            }
+        }
+        for (int f = 0; f < 4; f++) {
+            for (int i = 0; i < 8; i++) {
+                Checks.due("member(" + f + ", " + i + ")", x.member(f, i), 8 * f + i);
+            }
+            Checks.due("shared", x.shared(f, 80), 1);
+            Checks.due("by eight", x.asked(), 10);
+        }
+        Checks.due("of the last one, to the first", x.move(3, 7, 0, 7, 1), 1);
+        Checks.due("the last place", x.member(0, 7), 31);
+        Checks.due("the first of the next", x.member(1, 0), 8);
     }
 }

@@ -28,6 +28,8 @@ final class BoundsOfPassages {
         reaches();
         reachesOfNoLength();
         reachesApart();
+        legsOfBefore();
+        pairsThatPass();
         thoseThatHaveAStart();
         plansThatAreFull();
         passing();
@@ -473,10 +475,51 @@ final class BoundsOfPassages {
         together("the first REACH of three", true, legs(A, 0, B, 100, C, 100, C, 100), legs(B, 0, A, 100, A, 100, A, 100));
         together("the first of one, the last of the other", true, legs(A, 0, B, 100, B, 100, B, 100),
             legs(C, 0, C, 0, A, 99, B, 200));
+        together("the middle REACH of three", true, legs(C, 0, A, 10, B, 100, C, 200), legs(B, 20, A, 90));
+        together("the middle REACH of three, at its end", false, legs(C, 0, A, 10, B, 100, C, 200), legs(B, 100, A, 190));
         together("with LOCKS, too", true, legs(SECOND, 0, LONG, 7300), legs(LONG, 0, SECOND, 100));
         together("one LEG is no REACH", false, legs(A, 0), legs(A, 0, B, 100));
         together("none behind the last LEG", false, legs(A, 0, B, 100), legs(B, 0));
         together("none from the last LEG to the first", false, legs(A, 0, C, 10, B, 100), legs(B, 0, A, 100));
+    }
+
+    /** ROUTE 0 had LEGS more before it was cleared; a SHIP came to such LEGS on ROUTE 1 just before. */
+    private static void legsOfBefore() {
+        Checks.promise(39, "A ROUTE has no LEGS: how many it had.");
+        int[][] before = {{A, 0, B, 600}, {A, 0, LOCKED, 100}, {A, 0, B, 5, LOCKED, 100}, {A, 0, B, 0, C, 0, LOCKED, 100}};
+        for (int[] legs : before) {
+            for (int turn = 0; turn < 2; turn++) {
+                TideDesk x = harbour();
+                route(x, 1, legs);
+                route(x, 0, legs);
+                route(x, 0, A, 0);
+                Checks.due("it comes to all of them", x.holds(LIGHT, 1, 2), 1);
+                x.passage(HASTY, turn, 0);
+                x.passage(HASTY, 1 - turn, 0);
+                Checks.due("no LEG of before hinders", x.plan(), 2);
+            }
+        }
+    }
+
+    /** PAIRS four deep are asked all the same by what is done with a PASSAGE, and by minutes. */
+    private static void pairsThatPass() {
+        Checks.terms("(PAIRS, too: 4 one in the other at most)");
+        TideDesk x = harbour();
+        int pair = LIGHT;
+        for (int i = 0; i < 4; i++) {
+            pair = x.ship(4, 0, 0, 0, pair, LIGHT);
+        }
+        route(x, 0, LOCKED, 100);
+        Checks.due("comes", x.comes(pair, 0, 0, 0), 100);
+        Checks.due("holds", x.holds(pair, 0, 5), 1);
+        Checks.due("windows", x.windows(pair, 0, 5, 9), 1);
+        Checks.due("wrong", x.wrong(0), 0);
+        int p = x.passage(pair, 0, 7);
+        Checks.due("plan", x.plan(), 1);
+        Checks.due("start", x.planned(p, 1), 7);
+        passed(x, p, 1, 1, 12, 12, 12, 12, 10, 20, 10, 20, 10, 20, 10, 20, 10, 20, 32, 32, 32, 32, 30, 30, 30, 30, 30, 43, 43,
+            43, 43, 41, 41, 41, 41, 41);
+        Checks.due("no FINDING", x.count(8), 0);
     }
 
     private static void thoseThatHaveAStart() {
@@ -652,6 +695,18 @@ final class BoundsOfPassages {
             Checks.due("held at most", x.held(1), 2);
         }
         Checks.due("TRIES", x.tries(), 12);
+        TideDesk sixteen = new TideDesk();
+        sixteen.ship(1, 0, 100, 0, 0, 0);
+        for (int shoal = 0; shoal < 16; shoal++) {
+            sixteen.shoal(0, 0, 1 + shoal);
+        }
+        for (int first = 0; first < 16; first += 4) {
+            route(sixteen, first / 4, first, 0, first + 1, 0, first + 2, 0, first + 3, 0);
+            sixteen.passage(LIGHT, first / 4, 0);
+        }
+        for (int turn = 0; turn < 8; turn++) {
+            passed(sixteen, turn % 4, 1, 4, 10, 20, 30, 41);
+        }
         Harbour.refused(Harbour::spent, "FULL is no TRY", Checks.FULL, y -> y.pass(0));
         Harbour.refused(Harbour::spent, "BAD ahead of FULL", Checks.BAD, y -> y.pass(Harbour.PASSAGES));
     }

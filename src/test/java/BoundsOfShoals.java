@@ -143,6 +143,20 @@ final class BoundsOfShoals {
         Checks.due("the first has one", x.water(0, 0), Checks.bits(3.0));
         x.out(0, true);
         Checks.due("the first is OUT, the second is in", x.water(0, 0), Checks.bits(1.0));
+        TideDesk ten = new TideDesk();
+        for (int station = 0; station < 12; station++) {
+            ten.survey(station, 0);
+            ten.shoal(station, 100, 0);
+        }
+        for (int gauge = 0; gauge < 10; gauge++) {
+            ten.gauge(gauge + 1, 0, 60);
+            ten.reading(gauge, 100 * gauge, 0);
+        }
+        Checks.due("ten GAUGES, none of the first STATION", ten.water(0, 0), Checks.bits(1.0));
+        Checks.due("ten GAUGES, none of the last STATION", ten.water(11, 0), Checks.bits(1.0));
+        for (int gauge = 0; gauge < 10; gauge++) {
+            Checks.due("that of its STATION", ten.water(gauge + 1, 0), Checks.bits(1.0 + gauge));
+        }
     }
 
     private static void waterAsKnownNow() {

@@ -149,7 +149,7 @@ public final class ModelRunsTest {
     /** Leaves some findings of those allowed: no survey is told of the station here. */
     private void findNearlyAll() throws ReflectiveOperationException {
         call("shoal", 9, 0, 0);
-        call("leg", 5, desk.count(3) - 1, 0);
+        call("leg", 5, model.count(3) - 1, 0);
         for (int i = 0; i < 24; i++) {
             call("windows", 1, 5, i, 120);
         }

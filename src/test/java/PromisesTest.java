@@ -169,10 +169,11 @@ public final class PromisesTest {
 
     private static void ofCos() {
         promise = 6;
-        TideDesk x = new TideDesk();
+        // An object is used for 512 calls at most.
         for (int a = -70000; a < 140000; a += 7) {
-            due("cos(" + a + ")", x.cos(a), bits(cosOf(a)));
+            due("cos(" + a + ")", new TideDesk().cos(a), bits(cosOf(a)));
         }
+        TideDesk x = new TideDesk();
         int[] edges = {0, 1, 16383, 16384, 16385, 32767, 32768, 32769, 49151, 49152, 49153, 65535, 65536,
             Integer.MAX_VALUE, Integer.MIN_VALUE, Integer.MIN_VALUE + 16385};
         for (int a : edges) {
