@@ -193,6 +193,11 @@ final class Harbour {
         see("clock", x -> x.clock(x.count(0)));
     }
 
+    /** How many calls have been made on a desk that make() has made. */
+    static int callsMade() {
+        return TOLD.length;
+    }
+
     static TideDesk make() {
         TideDesk x = new TideDesk();
         for (Checks.Act act : TOLD) {

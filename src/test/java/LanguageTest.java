@@ -4,6 +4,7 @@ import com.sun.source.tree.ImportTree;
 import com.sun.source.tree.LineMap;
 import com.sun.source.tree.MethodInvocationTree;
 import com.sun.source.tree.MethodTree;
+import com.sun.source.tree.NewArrayTree;
 import com.sun.source.tree.NewClassTree;
 import com.sun.source.tree.Tree;
 import com.sun.source.tree.VariableTree;
@@ -35,6 +36,7 @@ public final class LanguageTest extends TreePathScanner<Void, Void> {
     private static final int MOST_FIELDS = 20;
     private static final Set<String> FACE_OF_LIBRARY = Set.of("java.lang.Math.max", "java.lang.Math.min",
         "java.lang.Math.abs", "java.lang.Math.floorDiv", "java.lang.Math.floorMod");
+    private static final Set<String> NUMBERS = Set.of("int", "long", "short", "byte", "char", "boolean", "double", "float");
     private static final Set<Tree.Kind> RULED_OUT = Set.of(Tree.Kind.LAMBDA_EXPRESSION, Tree.Kind.MEMBER_REFERENCE,
         Tree.Kind.SYNCHRONIZED, Tree.Kind.ASSERT, Tree.Kind.TRY, Tree.Kind.THROW, Tree.Kind.IMPORT);
     private static final String[] FACE = {"clock", "mean", "wave", "survey", "cos", "height", "force", "gauge",
@@ -187,8 +189,29 @@ public final class LanguageTest extends TreePathScanner<Void, Void> {
 
     @Override
     public Void visitNewClass(NewClassTree tree, Void nothing) {
+        dueMadeAtFirst(tree);
         noteCall(trees.getElement(getCurrentPath()));
         return super.visitNewClass(tree, nothing);
+    }
+
+    @Override
+    public Void visitNewArray(NewArrayTree tree, Void nothing) {
+        dueMadeAtFirst(tree);
+        return super.visitNewArray(tree, nothing);
+    }
+
+    /** Objects and rows are made by constructors, or beside the field that keeps them, and by no other method. */
+    private void dueMadeAtFirst(Tree tree) {
+        boolean isAtFirst = method == null || method.getKind() == ElementKind.CONSTRUCTOR;
+        due(isAtFirst, "rule 12: " + method + " makes " + tree);
+    }
+
+    @Override
+    public Void visitVariable(VariableTree tree, Void nothing) {
+        String type = tree.getType().toString().replace("[]", "");
+        boolean isOwn = trees.getElement(getCurrentPath()).asType().toString().startsWith("TideDesk.");
+        due(isOwn || NUMBERS.contains(type), "rule 3: " + tree);
+        return super.visitVariable(tree, nothing);
     }
 
     private void noteCall(Element to) {
